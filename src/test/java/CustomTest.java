@@ -61,6 +61,14 @@ public final class CustomTest {
         Checks.due("9: end(7)", x.end(7), true);
         Checks.due("9: end(8) then", x.end(8), false);
         Checks.due("9: 7 and 20", feedBlanks(x), 27);
+        Checks.feed(x, "ownx 1 by 1;");
+        x.end(3);
+        x.custom();
+        Checks.due("9: no letter behind the end", x.fault(1), 3);
+        Checks.feed(x, "free 123;");
+        x.end(7);
+        x.custom();
+        Checks.due("9: no digit behind the end", x.fault(0), 2);
     }
 
     private static void promise10Custom() {
@@ -79,6 +87,13 @@ public final class CustomTest {
         Checks.due("10: and the loans", x.may(2, 0, 51), 0);
         Checks.due("10: an empty one frees all", Checks.custom(x, ""), 0);
         Checks.due("10: all is free", x.may(0, 0, 0), 1);
+        Checks.custom(x, "bar 4 from 0 to 9; own 5 by 0;");
+        Checks.custom(x, "bar 3 from 0 to 9;");
+        Checks.custom(x, "");
+        Checks.custom(x, "");
+        for (int p = 3; p < 6; p++) {
+            Checks.due("10: nothing is left of older ones", x.may(1, p, 0), 1);
+        }
         x.lend(0, 99);
         x.order(0, 1, 0, 5);
         Checks.due("10: best ahead", x.best(0), 5);
@@ -143,6 +158,17 @@ public final class CustomTest {
         dueFault("own 1 by 1;\r", 1, 11);
         dueFault("ownx 1 by 1;", 1, 0);
         dueFault("ow", 1, 0);
+        dueFault("ownz 1 by 1;", 1, 0);
+        dueFault("ownA 1 by 1;", 1, 0);
+        dueFault("ownZ 1 by 1;", 1, 0);
+        dueFault("xwn 1 by 1;", 1, 0);
+        dueFault("x".repeat(500), 1, 0);
+        dueFault("own " + "1".repeat(496), 1, 4);
+        dueFault("own 1 ; 1;", 1, 6);
+        dueFault("own 1 by 1 1", 1, 11);
+        dueFault("to 1 to 1 until 1;", 1, 0);
+        dueFault("from 1 from 1 to 1;", 1, 0);
+        dueFault("bar 1 free 1 to 2;", 1, 6);
         dueFault("OWN 1 by 1;", 1, 0);
         dueFault("free 1;freE 1;", 1, 7);
         dueFault("own 001 by 1;", 1, 4);

@@ -130,6 +130,11 @@ public final class StateTest {
         Checks.due("4: lend(4, 1)", x.lend(4, 1), false);
         Checks.due("4: lend(0, max)", x.lend(0, Integer.MAX_VALUE), false);
         Checks.due("4: silver", x.look(10), 10000);
+        x.order(0, 1, 0, 5);
+        x.bring(0);
+        Checks.due("4: best without silver", x.best(0), 0);
+        x.lend(0, 2);
+        Checks.due("4: best with it", x.best(0), 5);
         for (int n = 0; n < 9; n++) {
             Checks.due("4: lend 9999 more", x.lend(1, 9999), true);
         }
@@ -181,6 +186,10 @@ public final class StateTest {
         x.drop(6);
         Checks.due("6: a dropped one makes no room", x.order(0, 1, 1, 1), -1);
         Checks.due("6: 7 came", x.look(1), 7);
+        Checks.due("6: a pattern with 7 orders", x.pattern(0, 6, 2, 0), true);
+        Checks.due("6: the last but one of 7", x.of(5, 5), 6);
+        Checks.due("6: a week with 7 orders", x.work(), 2);
+        Checks.due("6: six of 7 were open, one is", x.look(2), 1);
     }
 
     private static void promise6Made() {

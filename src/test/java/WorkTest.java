@@ -120,7 +120,6 @@ public final class WorkTest {
         Checks.due("16: order 0 to", x.best(10), 0);
         Checks.due("16: order 2 to", x.best(12), 0);
         Checks.due("16: order 3 to", x.best(13), 0);
-        x.custom();
         Checks.custom(x, "own 3 by 1; own 2 by 0;");
         x.hours(0, 0, 99);
         x.hours(0, 1, 50);
