@@ -479,7 +479,8 @@ public final class GlassValley {
             if (next >= length) {
                 token = TEXT_END;
             } else if (isLetter(bytes[next])) {
-                readWord();
+                skipLetters();
+                token = keyword();
             } else if (isDigit(bytes[next])) {
                 readNumber();
             } else {
@@ -494,11 +495,10 @@ public final class GlassValley {
             }
         }
 
-        private void readWord() {
+        private void skipLetters() {
             while (next < length && isLetter(bytes[next])) {
                 next++;
             }
-            token = keyword();
         }
 
         private void readNumber() {

@@ -2,8 +2,9 @@ import java.util.Random;
 
 /** All promises: long runs of calls, each answer held against the plain valley's. */
 public final class RandomRunsTest {
-    private static final int RUNS = 150;
-    private static final int CALLS = 300;
+    private static final int RUNS = 400;
+    // An object answers 512 calls: the last look at all takes 163, a custom some 30.
+    private static final int CALLS = 512 - 163 - 40;
     private static final String[] WORDS = {"own", "by", "lend", "to", "until", "bar", "from", "free", ";",
         "0", "1", "5", "6", "51", "52", "007", "Own", "x", "\n", ",", "\u00e9", "ownby"};
 
@@ -16,6 +17,7 @@ public final class RandomRunsTest {
     private final int mostSilver;
     private final int mostDue;
     private final int mostPrice;
+    private int calls;
 
     private RandomRunsTest(int seed) {
         random = new Random(seed);
@@ -40,10 +42,21 @@ public final class RandomRunsTest {
                 hours(f, w, random.nextInt(mostHours + 1));
             }
         }
-        for (int n = 0; n < CALLS; n++) {
+        while (calls < CALLS) {
             call(random.nextInt(100));
         }
         lookAtAll();
+        Checks.due(run + "calls within what is promised", calls <= 512, true);
+    }
+
+    private void due(String call, long got, long want) {
+        calls++;
+        Checks.due(run + call, got, want);
+    }
+
+    private void due(String call, boolean got, boolean want) {
+        calls++;
+        Checks.due(run + call, got, want);
     }
 
     private void call(int kind) {
@@ -55,52 +68,52 @@ public final class RandomRunsTest {
             lend(near(0, 3), near(1, mostSilver));
         } else if (kind < 37) {
             int f = near(0, 3);
-            Checks.due(run + "bring", x.bring(f), plain.bring(f));
+            due("bring", x.bring(f), plain.bring(f));
         } else if (kind < 47) {
             int p = near(0, 5), gross = near(1, 20), due = plain.look(0) + near(0, mostDue), price = near(1, mostPrice);
-            Checks.due(run + "order", x.order(p, gross, due, price), plain.order(p, gross, due, price));
+            due("order", x.order(p, gross, due, price), plain.order(p, gross, due, price));
         } else if (kind == 47) {
             int i = near(0, 6);
-            Checks.due(run + "drop", x.drop(i), plain.drop(i));
+            due("drop", x.drop(i), plain.drop(i));
         } else if (kind < 53) {
             custom(random.nextInt(5) == 0 ? anyText() : customText());
         } else if (kind < 58) {
             int n = near(0, 500);
-            Checks.due(run + "end", x.end(n), plain.end(n));
+            due("end", x.end(n), plain.end(n));
             feed(random.nextInt(), 0x20202020, random.nextInt(), 0x66726565, 0x20313b20);
         } else if (kind < 61) {
-            Checks.due(run + "work", x.work(), plain.work());
-            lookAtAll();
+            due("work", x.work(), plain.work());
+            lookAtSome(12);
         } else {
-            lookAtBest();
+            lookAtSome(3);
             int f = near(0, 3), p = near(0, 5), w = near(0, 51);
-            Checks.due(run + "may", x.may(f, p, w), plain.may(f, p, w));
+            due("may", x.may(f, p, w), plain.may(f, p, w));
         }
     }
 
     private void hours(int f, int w, int n) {
-        Checks.due(run + "hours", x.hours(f, w, n), plain.hours(f, w, n));
+        due("hours", x.hours(f, w, n), plain.hours(f, w, n));
     }
 
     private void pattern(int p, int hours, int silver, int breaks) {
-        Checks.due(run + "pattern", x.pattern(p, hours, silver, breaks), plain.pattern(p, hours, silver, breaks));
+        due("pattern", x.pattern(p, hours, silver, breaks), plain.pattern(p, hours, silver, breaks));
     }
 
     private void lend(int f, int grams) {
-        Checks.due(run + "lend", x.lend(f, grams), plain.lend(f, grams));
+        due("lend", x.lend(f, grams), plain.lend(f, grams));
     }
 
     private void feed(int a, int b, int c, int d, int e) {
-        Checks.due(run + "feed", x.feed(a, b, c, d, e), plain.feed(a, b, c, d, e));
+        due("feed", x.feed(a, b, c, d, e), plain.feed(a, b, c, d, e));
     }
 
     private void custom(String text) {
         for (int[] n : Checks.feeds(text)) {
             feed(n[0], n[1], n[2], n[3], n[4]);
         }
-        Checks.due(run + "custom", x.custom(), plain.custom());
+        due("custom", x.custom(), plain.custom());
         for (int what = -1; what <= 2; what++) {
-            Checks.due(run + "fault(" + what + ") of '" + text + "'", x.fault(what), plain.fault(what));
+            due("fault(" + what + ") of '" + text + "'", x.fault(what), plain.fault(what));
         }
     }
 
@@ -130,27 +143,32 @@ public final class RandomRunsTest {
         return text.toString();
     }
 
-    private void lookAtBest() {
-        for (int what = -1; what <= 27; what++) {
-            Checks.due(run + "best(" + what + ")", x.best(what), plain.best(what));
+    private void lookAtSome(int times) {
+        for (int n = 0; n < times; n++) {
+            int i = near(0, 6), what = near(0, 9), of = pick(0, 1, 10 + i, 20 + i);
+            due("best(" + of + ")", x.best(of), plain.best(of));
+            due("of(" + i + ", " + what + ")", x.of(i, what), plain.of(i, what));
         }
     }
 
     private void lookAtAll() {
-        lookAtBest();
+        for (int what = -1; what <= 27; what++) {
+            due("best(" + what + ")", x.best(what), plain.best(what));
+        }
         for (int what = -1; what <= 24; what++) {
-            Checks.due(run + "look(" + what + ")", x.look(what), plain.look(what));
+            due("look(" + what + ")", x.look(what), plain.look(what));
         }
         for (int i = -1; i <= 7; i++) {
             for (int what = -1; what <= 10; what++) {
-                Checks.due(run + "of(" + i + ", " + what + ")", x.of(i, what), plain.of(i, what));
+                due("of(" + i + ", " + what + ")", x.of(i, what), plain.of(i, what));
             }
         }
     }
 
-    /** Mostly what can be, now and then just beside it. */
+    /** Mostly what can be, now and then just beside it or far away. */
     private int near(int least, int most) {
-        return random.nextInt(60) == 0 ? pick(least - 1, most + 1) : least + random.nextInt(most - least + 1);
+        return random.nextInt(60) == 0 ? pick(least - 1, most + 1, Integer.MIN_VALUE, Integer.MAX_VALUE)
+            : least + random.nextInt(most - least + 1);
     }
 
     private int pick(int... of) {

@@ -23,11 +23,6 @@ public final class StateTest {
         for (int f = 0; f < 4; f++) {
             Checks.due("1: silver of " + f, x.look(10 + f), 0);
             Checks.due("1: used by " + f, x.look(20 + f), 0);
-            for (int p = 0; p < 6; p++) {
-                for (int w = 0; w < 52; w++) {
-                    Checks.due("1: may(" + f + ", " + p + ", " + w + ")", x.may(f, p, w), 1);
-                }
-            }
         }
         Checks.due("1: of(0, 0)", x.of(0, 0), -1);
         Checks.due("1: fault(0)", x.fault(0), 0);
